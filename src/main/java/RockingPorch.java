@@ -1445,7 +1445,11 @@ public final class RockingPorch {
         }
 
         void keep(Porch porch, int lines) {
-            porches[next].copyFrom(porch);
+            Porch before = porches[next];
+            if (before == null) {
+                return;
+            }
+            before.copyFrom(porch);
             booked[next] = lines;
             next = (next + 1) % MOST_UNDONE;
             count = Math.min(MOST_UNDONE, count + 1);
@@ -1457,7 +1461,11 @@ public final class RockingPorch {
             }
             count--;
             next = (next + MOST_UNDONE - 1) % MOST_UNDONE;
-            porch.copyFrom(porches[next]);
+            Porch before = porches[next];
+            if (before == null) {
+                return false;
+            }
+            porch.copyFrom(before);
             book.count = booked[next];
             return true;
         }

@@ -344,15 +344,20 @@ public final class PromiseTest {
     private static void promise10Law() {
         RockingPorch x = porch();
         x.set(3, 0, 2);
-        String[] told = {"7", "1+2*3-4", "20-3-4", "7/2", "(", "0-7/2+50", "9999*9999*9999/3", "run+draught*here", "minute+1",
-            "2*9/4*3", "0003"};
-        int[] due = {7, 3, 13, 3, NONE, 47, 0, 10, 1, 12, 3};
+        String[] told = {"7", "1+2*3-4", "20-3-4", "7/2", "(0-7)/2", "0-7/2+50", "3-7*1/2*10+90", "9999*9999*43-3500", "1-9999*9999*32",
+            "run+draught*here", "minute+1", "2*9/4*3", "0003", "100", "0-1"};
+        int[] due = {7, 3, 13, 3, NONE, 47, 63, 99, 99, 10, 1, 12, 3, 99, 0};
+        int before = x.of(0, 10);
         for (int i = 0; i < told.length; i++) {
-            int lines = Check.tell(x, 0, "swings " + told[i] + ";");
-            due(told[i], due[i] == NONE ? NONE : 1, lines);
-            int want = told[i].length() > 12 && told[i].startsWith("9") ? Math.max(0, Math.min(99, 9999 * 9999 * 9999 / 3)) : due[i];
-            due("is " + told[i], want == NONE ? due[i - 1] : want, x.of(0, 10));
+            due(told[i], due[i] == NONE ? NONE : 1, Check.tell(x, 0, "swings " + told[i] + ";"));
+            before = due[i] == NONE ? before : due[i];
+            due("is " + told[i], before, x.of(0, 10));
         }
+        due("a wrap to below 0", true, 9999 * 9999 * 32 < 0 && 9999 * 9999 * 43 - 3500 > 99);
+        due("/ goes towards 0", 1, Check.tell(x, 0, "swings run-dear*3/2*2 - 9/2 + 50;"));
+        due("so it is", 4 - 8 - 4 + 50, x.of(0, 10));
+        due("of what is below 0", 1, Check.tell(x, 0, "swings 50 when 9999*9999*32/1000 = 0-1095*1000-607;"));
+        due("not downwards", 50, x.of(0, 10));
         String[] so = {"1=1", "1<1", "1>1", "not 1=1", "(1=1)", "not not 1=1", "1=2 or 1=1 and 2=2", "1=1 or 1=1 and 1=2",
             "(1=1 or 1=1) and 1=2", "not 1=2 and 1=2", "not (1=2 and 1=2)", "1=2 or 1=2 or 1=1", "1=1 and 1=1 and 1=2",
             "((((((((1=1))))))))", "not(not(not(not 1=1)))", "0-1<0", "dear=3", "swing=0"};
@@ -378,10 +383,11 @@ public final class PromiseTest {
             "fades 1 when 1=1);", "fades 1 when (1=1;", "fades 1 when not;", "fades 1 when 1=1 not 1=1;", "fades 1 when;",
             "fades 10000;", "fades 1 # ;", "fades sit;", "fades 1 when 1=1 or;", "fades 1 when or 1=1;", "fades runs;", "1;",
             "fades 1*;", "fades 1+;", "fades 1\t;", "fades 1" + (char) 200 + ";", "fades 1 when 1==1;",
+            "fadesz 1;", "fadesZ 1;", "afades 1;", "Afades 1;", "fades`1;", "fades{1;", "fades@1;", "fades[1;", "fades 1:;", "fades 90/9:",
             "fades 1 when ((((((((not 1=1))))))));", "fades 1 when (((((((( 1/0=1", "fades 1 when 1=1 and ((((((((( 1=1"};
-        int[] fault = {1, 1, 1, 1, 1, 1, 1, 1, 2, 2, 1, 1, 1, 1, 1, 1, 1, 1, 1, 1, 1, 1, 1, 1, 1, 1, 1, 1, 1, 1, 1, 3, 2, 3};
-        int[] place = {5, 7, 8, 0, 8, 6, 6, 8, 8, 8, 8, 14, 16, 17, 16, 17, 16, 17, 12, 6, 8, 6, 19, 13, 6, 0, 8, 8, 7, 7, 15, 21,
-            24, 29};
+        int[] fault = {1, 1, 1, 1, 1, 1, 1, 1, 2, 2, 1, 1, 1, 1, 1, 1, 1, 1, 1, 1, 1, 1, 1, 1, 1, 1, 1, 1, 1, 1, 1, 1, 1, 1, 1, 1, 1, 1, 1, 1, 1, 3, 2, 3};
+        int[] place = {5, 7, 8, 0, 8, 6, 6, 8, 8, 8, 8, 14, 16, 17, 16, 17, 16, 17, 12, 6, 8, 6, 19, 13, 6, 0, 8, 8, 7, 7, 15, 0, 0,
+            0, 0, 5, 5, 5, 5, 7, 10, 21, 24, 29};
         for (int i = 0; i < wrong.length; i++) {
             due(wrong[i], NONE, Check.tell(x, 0, wrong[i]));
             due("fault of " + wrong[i], fault[i], x.fault(0));
@@ -595,8 +601,8 @@ public final class PromiseTest {
         due("taken for ever", NONE, x.seat());
         Check.tell(x, 1, "at 2 person 0 rise;");
         due("rises, then fades", 2 + 5, x.seat());
-        Check.tell(x, 0, "swings 59;fades 1 when minute > 2;fades 1 when minute=2;");
-        due("minute 2 to 60", 61 - 60, x.seat() == NONE ? 1 : 0);
+        Check.tell(x, 0, "swings 59;fades 1;");
+        due("behind 61", NONE, x.seat());
         Check.tell(x, 0, "swings 58;fades 1;");
         due("at the last", 60, x.seat());
         due("minute stays", 0, x.look(7));
