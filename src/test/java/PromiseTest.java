@@ -383,7 +383,7 @@ public final class PromiseTest {
             "fades 1 when 1=1);", "fades 1 when (1=1;", "fades 1 when not;", "fades 1 when 1=1 not 1=1;", "fades 1 when;",
             "fades 10000;", "fades 1 # ;", "fades sit;", "fades 1 when 1=1 or;", "fades 1 when or 1=1;", "fades runs;", "1;",
             "fades 1*;", "fades 1+;", "fades 1\t;", "fades 1" + (char) 200 + ";", "fades 1 when 1==1;",
-            "fadesz 1;", "fadesZ 1;", "afades 1;", "Afades 1;", "fades`1;", "fades{1;", "fades@1;", "fades[1;", "fades 1:;", "fades 90/9:",
+            "fadesz 1;", "fadesZ 1;", "fadesA 1;", "fadesaa 1;", "fades`1;", "fades{1;", "fades@1;", "fades[1;", "fades 1:;", "fades 90/9:",
             "fades 1 when ((((((((not 1=1))))))));", "fades 1 when (((((((( 1/0=1", "fades 1 when 1=1 and ((((((((( 1=1"};
         int[] fault = {1, 1, 1, 1, 1, 1, 1, 1, 2, 2, 1, 1, 1, 1, 1, 1, 1, 1, 1, 1, 1, 1, 1, 1, 1, 1, 1, 1, 1, 1, 1, 1, 1, 1, 1, 1, 1, 1, 1, 1, 1, 3, 2, 3};
         int[] place = {5, 7, 8, 0, 8, 6, 6, 8, 8, 8, 8, 14, 16, 17, 16, 17, 16, 17, 12, 6, 8, 6, 19, 13, 6, 0, 8, 8, 7, 7, 15, 0, 0,
@@ -451,6 +451,11 @@ public final class PromiseTest {
         due("place of nine", 13 + 32, x.fault(1));
         due("not and ( together", NONE, Check.tell(x, 0, "fades 1 when not(not(not(not(not 1=1))));"));
         due("place of the ninth", 13 + 16, x.fault(1));
+        for (int v = 7; v <= 8; v++) {
+            String deep = "1=2 or 1=1 and (".repeat(8) + "1=2 or 1=1 and 1+2*3=0+1*" + v + ")".repeat(8);
+            due("all that may wait " + v, 2, Check.tell(x, 0, "fades 15 when " + deep + ";fades 5;"));
+            due("so or not " + v, v == 7 ? 15 : 5, x.of(0, 4));
+        }
         String ors = "1=2 or ".repeat(20);
         due("a long one", 1, Check.tell(x, 0, "fades 1 when " + ors + "((((((((" + "1=1))))))));"));
         due("a full tape", NONE, Check.tell(x, 0, "1".repeat(400)));
