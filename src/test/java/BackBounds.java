@@ -294,7 +294,7 @@ final class BackBounds extends Bounds {
     }
 
     /** Tells something for each of the thoughts. */
-    private static void think(RockingPorch x) {
+    static void think(RockingPorch x) {
         x.tick(3, 4);
         x.tick(5, 6);
         x.apart(0, 1);
@@ -312,6 +312,27 @@ final class BackBounds extends Bounds {
         x.step(14);
         x.coin(5);
         x.coin(2);
+    }
+
+    /** As much as think() tells, but nothing of that. */
+    private static void thinkOtherwise(RockingPorch x) {
+        x.tick(1, 5);
+        x.tick(1, 7);
+        x.apart(3, 4);
+        x.apart(0, 5);
+        x.point(20, 0);
+        x.point(19, 1);
+        x.point(9, 9);
+        x.full(0, 0, true);
+        x.full(5, 3, true);
+        x.weight(10);
+        x.weight(11);
+        x.weight(12);
+        x.step(60);
+        x.step(59);
+        x.step(30);
+        x.coin(40);
+        x.coin(39);
     }
 
     private static void thinkOfNothing(RockingPorch x) {
@@ -370,6 +391,7 @@ final class BackBounds extends Bounds {
         kin(x, "");
         x.minutes(60);
         thinkOfNothing(x);
+        thinkOtherwise(x);
         due("all is another", false, is.equals(was(x)));
         due("all is thought otherwise", false, thought.equals(thoughts(x)));
         due("gone back to", true, x.image(false));

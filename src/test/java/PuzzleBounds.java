@@ -398,6 +398,7 @@ final class PuzzleBounds extends Bounds {
         of("of two unlike rows of as many: how likely a comes ahead of b: x by x and y, x being the FIT of b to b less that of b to a, y that of a to a less that of a to b:");
         RockingPorch x = new RockingPorch();
         dueLikely(x, 2, 3, 1, 2);
+        dueLikely(x, 3, 2, 1, 2);
         dueLikely(x, 0b111, 0b101, 1, 4);
         dueLikely(x, 0b101, 0b111, 3, 4);
         dueLikely(x, 0b1011, 0b1110, 3, 4);

@@ -133,9 +133,9 @@ final class TextBounds extends Bounds {
         dueNext(0, "fades 1 when ( 1 = 1 and ", CONDITION, false);
         dueNext(0, "fades 1 when ( ( 1 = 1 ) ", "or and )", false);
         String[] so = {"1<2", "1=1", "2>1", "not 1=2", "(1=1)", "not not 1=1", "not (1=1 and 1=2)", "not 1=2 and 1=1", "not 1=1 or 1=1",
-            "(1=2 or 1=1) and 1=1"};
+            "(1=2 or 1=1) and 1=1", "1<2 and 1=1", "2>1 and 1=1", "1=1 and 1<2 and 2>1"};
         String[] not = {"1<1", "2<1", "1=2", "1>1", "1>2", "not 1=1", "(1=2)", "not not 1=2", "not (1=1 or 1=2)", "not 1=2 and 1=2",
-            "(1=1 or 1=1) and 1=2"};
+            "(1=1 or 1=1) and 1=2", "not 1<2", "not 2>1", "not 1<2 or not 2>1"};
         for (String c : so) {
             dueSo(c, true);
         }
@@ -173,6 +173,7 @@ final class TextBounds extends Bounds {
         dueSum("100 / 7 / 2", 7);
         dueSum("7 / 2 * 2", 6);
         dueSum("2 * 7 / 4", 3);
+        dueSum("9999 * 7 / 9999 / 1", 7);
         dueSum("1 + 2 * 3", 7);
         of("U = NUMBER | run | swing | dear | minds | missed | sat | draught | here | minute.");
         RockingPorch x = porch("19", "810");
@@ -412,6 +413,7 @@ final class TextBounds extends Bounds {
         String full = "fades 1" + " ".repeat(393);
         dueFault(x, 0, full, 1, 400);
         dueFault(x, 0, "7", 1, 0);
+        dueFault(x, 0, ";".repeat(400), 1, 0);
         dueFault(x, 0, "fades 1;;", 1, 8);
     }
 
@@ -463,7 +465,7 @@ final class TextBounds extends Bounds {
         String[] eight = {"((((((((1=1))))))))", "not not not not not not not not 1=1", "not(not(not(not(1=1))))",
             "(not(not(not(not 1=1))))", "((((1=1))))and((((((((1=1))))))))", "not 1=2 and not 1=2 and not 1=2 and not 1=2 and not 1=2 and not 1=2"
                 + " and not 1=2 and not 1=2 and not 1=2 and not 1=2", "(1=1)and(1=1)and(1=1)and(1=1)and(1=1)and(1=1)and(1=1)and(1=1)and(1=1)and(1=1)",
-            "(((((((not 1=2 and not 1=2)))))))"};
+            "(((((((not 1=2 and not 1=2)))))))", "1=2 or 1=1 and (".repeat(8) + "1+2*3<4+5*6" + ")".repeat(8)};
         for (String deep : eight) {
             dueGood(x, 0, "fades 20 when " + deep + "; fades 3;", 2);
             due(deep + " is so", 20, x.of(0, 4));
@@ -611,6 +613,14 @@ final class TextBounds extends Bounds {
         due("its first nine", true, x.end(9));
         due("one line", 1, x.text(0));
         due("the first", 12, x.of(0, 4));
+        Check.tape(x, "fades 1; jumps");
+        x.end(13);
+        x.text(0);
+        due("a word cut off is none", 9, x.fault(1));
+        Check.tape(x, "fades 12345;");
+        x.end(10);
+        x.text(0);
+        due("a number cut off is one", 10, x.fault(1));
         Check.tape(x, "fades 1;");
         due("none", true, x.end(0));
         due("without lines", 0, x.text(0));
@@ -641,6 +651,16 @@ final class TextBounds extends Bounds {
             due("lines of " + k, 1, x.look(10 + k));
             due("a text in its stead", 0, x.text(k));
             due("no lines of " + k, 0, x.look(10 + k));
+        }
+        RockingPorch y = porch();
+        dueGood(y, 0, "fades 1 when not not 1=2;", 1);
+        dueGood(y, 0, "jumps 1+2+3;", 1);
+        due("nothing is left of the one before", 6, y.of(0, 5));
+        String longest = "jumps " + "1+".repeat(196) + "1;";
+        due("as long as the tape can be", 400, longest.length());
+        for (int i = 0; i < 3; i++) {
+            dueGood(y, 0, longest, 1);
+            due("read to its end", 197, y.of(0, 5));
         }
         of("NONE: no such one (fault() tells 0), or a FAULT (the TEXT stays as it was; the TAPE is empty in each case).");
         for (int k = 0; k <= 3; k++) {

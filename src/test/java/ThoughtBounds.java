@@ -2,6 +2,8 @@
 final class ThoughtBounds extends Bounds {
     private static final int[] FACTORIALS = {1, 1, 2, 6, 24, 120, 720, 5040};
 
+    private static final int THOUGHTS = 15;
+
     ThoughtBounds(Check check, Sentences sentences) {
         super(check, sentences);
     }
@@ -9,6 +11,7 @@ final class ThoughtBounds extends Bounds {
     void all() {
         in("Terms");
         nothingStays();
+        nothingStaysBetween();
         noDraws();
         howFar();
         sums();
@@ -54,6 +57,68 @@ final class ThoughtBounds extends Bounds {
         dueSame("thought", before, x);
         due("what was done is undone", true, x.undo());
         due("the latest", 1, x.who(2, 1));
+    }
+
+    /** One thought behind another leaves nothing behind for it. */
+    private void nothingStaysBetween() {
+        RockingPorch x = rocking(60);
+        BackBounds.think(x);
+        int[] first = new int[THOUGHTS];
+        for (int i = 0; i < THOUGHTS; i++) {
+            RockingPorch y = rocking(60);
+            BackBounds.think(y);
+            first[i] = thought(y, i);
+        }
+        for (int i = 0; i < THOUGHTS; i++) {
+            for (int before = 0; before < THOUGHTS; before++) {
+                thought(x, before);
+                due("thought " + i + " behind " + before, first[i], thought(x, i));
+            }
+        }
+        RockingPorch z = rocking(60);
+        BackBounds.think(z);
+        z.coin(NONE);
+        z.coin(39);
+        z.coin(40);
+        for (int before = 0; before < THOUGHTS; before++) {
+            thought(z, before);
+            due("a lost game behind " + before, NONE, z.slide());
+        }
+    }
+
+    private static int thought(RockingPorch x, int i) {
+        switch (i) {
+            case 0:
+                return x.ticks(0);
+            case 1:
+                return x.seated(7, 0);
+            case 2:
+                return x.seated(6, 1);
+            case 3:
+                return x.line(0);
+            case 4:
+                return x.line(1);
+            case 5:
+                return x.rug(0);
+            case 6:
+                return x.stack(176543210, 0);
+            case 7:
+                return x.stack(12031, 1);
+            case 8:
+                return x.stack(1012, 0);
+            case 9:
+                return x.trunks(45, 0);
+            case 10:
+                return x.trunks(50, 1);
+            case 11:
+                return x.steps(1);
+            case 12:
+                return x.slide();
+            case 13:
+                return x.goes(10, 0);
+            default:
+                return x.seat();
+        }
     }
 
     private void noDraws() {
@@ -504,6 +569,7 @@ final class ThoughtBounds extends Bounds {
         for (int any : b) {
             due("one", 1, x.apart(0, 1));
             due("two", 2, x.apart(5, 6));
+            due("not all orders", 12, x.seated(4, 0));
             due("none, b " + any, 0, x.apart(NONE, any));
             due("all orders", 24, x.seated(4, 0));
         }
